@@ -1324,7 +1324,7 @@ public final class OracleTest {
     }
 
     public static void main(String[] args) {
-        int runs = Integer.getInteger("runs", 400);
+        int runs = Integer.getInteger("runs", 3000);
         long first = Long.getLong("first", 1L);
         long calls = 0;
         for (long seed = first; seed < first + runs; seed++) {
