@@ -66,7 +66,6 @@ public final class LinenBoard {
     private static final int WAS_BAD = 1;
 
     private static final int CLAIMED_WEB = 0;
-    private static final int CLAIMED_ON = 1;
     private static final int PAID = 2;
     private static final int UNDONE_ON = 3;
 
@@ -82,8 +81,8 @@ public final class LinenBoard {
     private static final int DRAWN = 1;
     private static final int FULL = 2;
     private static final int FIRST_DRAWN = 3;
-    private static final int FIRST_COUNTED = 43;
-    private static final int LOT_WIDTH = 83;
+    private static final int FIRST_COUNTED = FIRST_DRAWN + MOST_HANKS;
+    private static final int LOT_WIDTH = FIRST_COUNTED + MOST_HANKS;
 
     private static final int CLAUSE_KIND = 0;
     private static final int CLAUSE_NUMBER = 1;
@@ -416,6 +415,7 @@ public final class LinenBoard {
         if (!now.claims.has(claim) || !isWithin(what, CLAIMED_WEB, UNDONE_ON)) {
             return NONE;
         }
+        // The columns stand in the order in which they are asked for.
         return now.claims.get(claim, what);
     }
 
@@ -1556,6 +1556,8 @@ public final class LinenBoard {
         private static final int WOVEN_BY = 0;
         private static final int NEEDED = 1;
         private static final int YARDS = 2;
+        // Above what any webs have or need.
+        private static final int MOST_YARDS = 10000;
         private static final int MOST_POUNDS = 10000;
         private static final int UNSEEN = -2;
 
@@ -1577,7 +1579,7 @@ public final class LinenBoard {
 
         void start(int peckPounds) {
             webs.size = 0;
-            leastLength = Integer.MAX_VALUE;
+            leastLength = MOST_YARDS;
             leftOut = 0;
             tradesOf.size = 0;
             for (int person = 0; person < ledger.persons.size; person++) {

@@ -1307,7 +1307,32 @@ public final class OracleTest {
             }
         }
 
+        /** Many trades among few or all persons, and ten webs in doubt. */
+        private void weave() {
+            int persons = random.nextBoolean() ? 30 : 4 + random.nextInt(5);
+            ask("town", pick(80, 120));
+            for (int i = 0; i < persons; i++) {
+                ask("person", 0, 0);
+                ask("seed", i, random.nextInt(3) == 0 ? pick(0, 30) : 0);
+            }
+            for (int i = 25 + random.nextInt(16); i > 0; i--) {
+                ask("trade", one(model.persons), one(model.persons), random.nextInt(3) == 0 ? pick(0, 9999) : pick(0, 90));
+            }
+            for (int i = 0; i < 10; i++) {
+                ask("web", random.nextInt(3) == 0 ? persons - 1 : one(model.persons));
+                ask("measure", i, 0, pick(20, 120), pick(20, 60), pick(1, random.nextBoolean() ? 6 : 40), 0);
+            }
+            for (int web = -1; web < 10; web++) {
+                ask("doubt", 0, 9, web);
+                ask("proof", 0, 9, random.nextInt() & (1 << persons) - 1);
+            }
+        }
+
         boolean go() {
+            if (random.nextInt(20) == 0) {
+                weave();
+                return !wrong;
+            }
             if (random.nextInt(10) != 0) {
                 settle();
                 enact();

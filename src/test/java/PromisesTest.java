@@ -411,6 +411,26 @@ public final class PromisesTest {
         faulty("shrink 1+1;", 1, 8);
         faulty("shrink -1;", 1, 7);
         faulty("level width;", 1, 6);
+        faulty("feeZ 1;", 1, 0);
+        faulty("feeA1;", 1, 0);
+        faulty("feez 1;", 1, 0);
+        faulty("afee 1;", 1, 0);
+        faulty("fee@1;", 1, 3);
+        faulty("fee[1;", 1, 3);
+        faulty("fee`1;", 1, 3);
+        faulty("fee{1;", 1, 3);
+        faulty("fee 1:2;", 1, 5);
+        faulty("fee 1.2;", 1, 5);
+        LinenBoard x = new LinenBoard();
+        feedText(x, "fee 1;fee 2;");
+        x.end(8);
+        due("13: what was cut off is no part of a token", x.act(), -1);
+        due("13: fe", x.fault(0), 1);
+        due("13: its place", x.fault(1), 6);
+        sound("fee " + repeat("1+", 147) + "1;");
+        faulty("fee " + repeat("1+", 147) + "1)", 1, 299);
+        faulty("fee " + repeat("1+", 148), 1, 300);
+        faulty(repeat(";", 300), 1, 0);
     }
 
     private static void p13numbers() {
@@ -765,6 +785,19 @@ public final class PromisesTest {
         due("21: at least two", x.kind(0, 2), 1000000000000L - 13841287201L - 36L * 1977326743L);
         x.allow(0);
         due("21: with 0 in 10 none", x.kind(0, 2), 0);
+        LinenBoard y = oneWeb();
+        y.die(0);
+        y.seal(0, 0, 0);
+        y.seal(0, 0, 1);
+        y.look(0);
+        y.look(0);
+        y.look(1);
+        y.allow(9);
+        due("21: at least one of three", y.kind(0, 2), 999);
+        inForce(y, "level 100;");
+        due("21: 99900 < 100000", y.kind(0, 3), 1);
+        inForce(y, "level 99;");
+        due("21: 99900 < 99000 isn't so", y.kind(0, 3), 0);
     }
 
     private static void p22claim() {
@@ -1038,6 +1071,31 @@ public final class PromisesTest {
         y.trade(0, 2, 60);
         y.trade(3, 1, 60);
         due("30: what went one way goes another", y.doubt(0, 1, -1), 0);
+        LinenBoard z = new LinenBoard();
+        z.town(100);
+        for (int i = 0; i < 30; i++) {
+            z.person(0, 0);
+        }
+        // Forty trades, of which the last ten lead to ten webs, by way of person 29 from person 28.
+        for (int i = 0; i < 29; i++) {
+            z.trade(29, i, 0);
+        }
+        z.trade(28, 29, 9999);
+        for (int i = 0; i < 10; i++) {
+            z.web(i);
+            z.measure(i, 0, 100, 50, 10 + i, 0);
+            due("30: trade " + i, z.trade(29, i, z.need(i) - (i == 9 ? 1 : 0)), 30 + i);
+        }
+        z.seed(28, 73);
+        // needs 51, 56 .. 96: 735 in all; 730 pounds: one of them is to be left out, the last can't be had
+        due("30: the last lacks a pound", z.doubt(0, 9, -1), 19);
+        due("30: it alone", z.doubt(0, 9, 9), 1);
+        z.seed(28, 63);
+        due("30: 630 pounds for 639", z.doubt(0, 9, -1), 29);
+        due("30: the first too", z.doubt(0, 9, 0), 1);
+        z.web(29);
+        z.measure(10, 0, 100, 50, 60, 0);
+        due("30: person 29 has what comes to it", z.doubt(10, 10, -1), 0);
     }
 
     private static void p31proof() {
@@ -1202,6 +1260,13 @@ public final class PromisesTest {
         due("36: together", x.lotOf(0, 3), 100);
         due("36: another", x.count(0, 0, 5), true);
         due("36: together", x.lotOf(0, 3), 105);
+        x.lot(40);
+        x.draw(1, 40, 99);
+        for (int i = 0; i < 40; i++) {
+            due("36: each of forty", x.count(1, i, i), true);
+        }
+        due("36: forty counted", x.lotOf(1, 2), 40);
+        due("36: their threads", x.lotOf(1, 3), 780);
     }
 
     private static void p37lotOf() {
