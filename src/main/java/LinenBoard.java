@@ -163,12 +163,14 @@ public final class LinenBoard {
     private final Urn urn;
 
     public LinenBoard() {
-        now = new Ledger();
+        Ledger ledger = new Ledger();
+        Tape bytes = new Tape();
+        now = ledger;
         kept = new Ledger();
-        tape = new Tape();
-        reader = new Reader(tape);
-        bench = new Bench(now);
-        loom = new Loom(now);
+        tape = bytes;
+        reader = new Reader(bytes);
+        bench = new Bench(ledger);
+        loom = new Loom(ledger);
         urn = new Urn();
     }
 

