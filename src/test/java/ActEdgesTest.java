@@ -124,7 +124,14 @@ public final class ActEdgesTest {
         x.feed(FEE, 0x313b6665, 0x65203232, BLANKS, BLANKS);
         x.end(8);
         due("'fee 1;fe'", x.act(), -1);
+        due("its fault", x.fault(0), 1);
         due("its place", x.fault(1), 6);
+        // "shri" "nk 2" "1;  "
+        x.feed(0x73687269, 0x6e6b2032, 0x313b2020, BLANKS, BLANKS);
+        x.end(8);
+        due("'shrink 2'", x.act(), -1);
+        due("its fault", x.fault(0), 1);
+        due("its place", x.fault(1), 8);
         x.feed(FEE, 0x39393939, 0x393b2020, BLANKS, BLANKS);
         x.end(8);
         x.feed(0x3b202020, BLANKS, BLANKS, BLANKS, BLANKS);
@@ -218,6 +225,9 @@ public final class ActEdgesTest {
     static void p12act_aTextOf300BytesWithAFaultInItsLast() {
         faulty("fee " + "1+".repeat(147) + "1)", 1, 299);
         faulty("fee " + "1+".repeat(148), 1, 300);
+        faulty(" ".repeat(299) + ";", 1, 299);
+        faulty("x".repeat(300), 1, 0);
+        faulty(";".repeat(300), 1, 0);
     }
 
     @Edges.Says("NONE: it has a FAULT;")
@@ -345,6 +355,10 @@ public final class ActEdgesTest {
     @Edges.Says("letters a .. z, A .. Z one behind the other (one TOKEN),")
     static void p13fault_lettersMakeOneToken() {
         faulty("feefee 1;", 1, 0);
+        faulty("shrinks 1;", 1, 0);
+        faulty("bountybounty 1;", 1, 0);
+        faulty("abcdefg 1 1=1;", 1, 0);
+        faulty("fee lengths;", 1, 4);
         faulty("fee widths;", 1, 4);
         faulty("fee wid;", 1, 4);
         faulty("seal 1=1 andor 1=1;", 1, 9);
@@ -559,6 +573,8 @@ public final class ActEdgesTest {
     @Edges.Says("EITHER: BOTH {or BOTH}.")
     static void p13fault_orWantsBothSides() {
         sound("seal 1=1 or 1=1 or 1=1;");
+        asks("1=2 or ".repeat(30) + "1=1", true);
+        asks("1=2 or ".repeat(30) + "1=2", false);
         faulty("seal or 1=1;", 1, 5);
         faulty("seal 1=1 or;", 1, 11);
         faulty("seal 1=1 or or 1=1;", 1, 12);
@@ -569,6 +585,8 @@ public final class ActEdgesTest {
     @Edges.Says("BOTH: ASK {and ASK}.")
     static void p13fault_andWantsBothSides() {
         sound("seal 1=1 and 1=1 and 1=1;");
+        asks("1=1 and ".repeat(30) + "1=1", true);
+        asks("1=1 and ".repeat(30) + "1=2", false);
         faulty("seal and 1=1;", 1, 5);
         faulty("seal 1=1 and;", 1, 12);
         faulty("seal 1=1 and and 1=1;", 1, 13);
@@ -609,6 +627,7 @@ public final class ActEdgesTest {
     @Edges.Says("PRODUCT: ONE {* or / ONE}.")
     static void p13fault_timesAndOverWantBothSides() {
         sound("fee 1*2/3*4;");
+        value("1*".repeat(60) + "7", 7);
         faulty("fee *1;", 1, 4);
         faulty("fee /1;", 1, 4);
         faulty("fee 1*;", 1, 6);
@@ -799,6 +818,18 @@ public final class ActEdgesTest {
     }
 
     @Edges.Says(DEEP)
+    static void p13fault_behindAProductOrASumAsWell() {
+        sound("fee 1*1*1*((((((((1))))))));");
+        sound("fee 1+1+1+((((((((1))))))));");
+        faulty("fee 1*1*1*(((((((((1)))))))));", 3, 18);
+        faulty("fee 1+1+1+(((((((((1)))))))));", 3, 18);
+        faulty("fee ((((((((1*(1)", 3, 14);
+        faulty("fee ((((((((1*1*(1)", 3, 16);
+        faulty("fee ((((((((1+(1)", 3, 14);
+        faulty("fee ((((((((1+1+(1)", 3, 16);
+    }
+
+    @Edges.Says(DEEP)
     static void p13fault_thoseBesideOneAnotherAreNotAround() {
         sound("fee " + "(1)+".repeat(30) + "1;");
         sound("fee " + "-1+".repeat(30) + "1;");
@@ -810,6 +841,10 @@ public final class ActEdgesTest {
     @Edges.Says(DEEP)
     static void p13fault_eachSideOfAnAskBeginsAnew() {
         sound("seal ((((((((1))))))))=((((((((1))))))));");
+        sound("seal 1=1 and ((((((((1))))))))=1;");
+        faulty("seal 1=1 and (((((((((1)))))))))=1;", 3, 21);
+        sound("seal 1=1 or ((((((((1))))))))=1;");
+        faulty("seal 1=1 or (((((((((1)))))))))=1;", 3, 20);
         faulty("seal ((((((((1))))))))=(((((((((1)))))))));", 3, 31);
     }
 
@@ -1219,6 +1254,15 @@ public final class ActEdgesTest {
         asks("-1000*1000*1000-1=-1000*1000*1000", true);
     }
 
+    @Edges.Says("From the left;")
+    static void p15sum_asDeepAsATextMayGo() {
+        value("1+1*(".repeat(7) + "1" + ")".repeat(7), 8);
+        value("1+1*max(0,".repeat(7) + "1" + ")".repeat(7), 8);
+        asks("1=2 or 1=1 and 1+1*max(0," + "1+1*max(0,".repeat(7) + "1" + ")".repeat(8) + "=9", true);
+        asks("1=1 and 9=1+1*max(0," + "1+1*max(0,".repeat(7) + "1" + ")".repeat(8), true);
+        asks("not ".repeat(8) + "2*3+4=10", true);
+    }
+
     @Edges.Says("min ( SUM , SUM ), max likewise.")
     static void p15sum_minAndMax() {
         value("min(2,3)", 2);
@@ -1239,6 +1283,9 @@ public final class ActEdgesTest {
         for (int sign = 0; sign < signs.length; sign++) {
             for (int left = 4; left <= 6; left++) {
                 asks(left + signs[sign] + "5", want[sign][left - 4]);
+                asks("not " + left + signs[sign] + "5", !want[sign][left - 4]);
+                asks("1=1 and " + left + signs[sign] + "5", want[sign][left - 4]);
+                asks(left + signs[sign] + "5 or 1=2", want[sign][left - 4]);
             }
         }
     }

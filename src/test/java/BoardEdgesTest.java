@@ -640,6 +640,23 @@ public final class BoardEdgesTest {
         due("width by inches of town 1", x.board(0, 0, 0, 0), 60);
     }
 
+    @Edges.Says("by its WEAVER's TOWN,")
+    static void p7measure_ofWebsOfTwoTownsInAnyOrder() {
+        LinenBoard x = new LinenBoard();
+        x.town(80);
+        x.town(120);
+        x.person(0, 0);
+        x.person(1, 0);
+        x.web(0);
+        x.web(1);
+        x.measure(1, 0, 50, 60, 1, 0);
+        x.measure(0, 0, 50, 60, 1, 0);
+        due("width of web 0", x.board(0, 0, 0, 0), 40);
+        due("width of web 1", x.board(1, 0, 0, 0), 60);
+        due("count of web 0", x.board(0, 0, 0, 1), 75);
+        due("count of web 1", x.board(1, 0, 0, 1), 50);
+    }
+
     // ---- promise 8
 
     @Edges.Says("On DAY d as KNOWN on DAY k: of those from d or ahead,")
@@ -785,6 +802,20 @@ public final class BoardEdgesTest {
         due("20 weeks", bleached(200, 20, 0).board(0, 0, 0, 0), 200);
     }
 
+    @Edges.Says("then WEEK by WEEK less SHRINK hundredths of it (cut);")
+    static void p8board_shrinkIsThatOfTheDayAskedFor() {
+        LinenBoard x = Edges.onePerson();
+        x.web(0);
+        x.web(0);
+        x.measure(1, 0, 100, 1, 1, 1);
+        x.force(Edges.act(x, "shrink 20;"), 7, 8);
+        x.days(9);
+        int[] want = {100, 80, 80, 100};
+        for (int day = 6; day <= 9; day++) {
+            due("on day " + day, x.board(1, day, 3, 0), want[day - 6]);
+        }
+    }
+
     @Edges.Says("COUNT * 100 / INCH, cut;")
     static void p8board_countIsCut() {
         LinenBoard x = new LinenBoard();
@@ -837,6 +868,28 @@ public final class BoardEdgesTest {
         LinenBoard x = Edges.oneWeb();
         Edges.inForce(x, "sort 0 width=100;sort 9 width=100;");
         due("sort", x.board(0, 0, 0, 4), 0);
+    }
+
+    @Edges.Says("SORT of a WEB: the NUMBER of the first sort CLAUSE that is so.")
+    static void p8board_sortIsByTheActOfTheDayAskedFor() {
+        LinenBoard x = Edges.oneWeb();
+        x.force(Edges.act(x, "sort 6 1=1;"), 7, 8);
+        x.days(9);
+        int[] want = {-1, 6, 6, -1};
+        for (int day = 6; day <= 9; day++) {
+            due("on day " + day, x.board(0, day, 3, 4), want[day - 6]);
+        }
+    }
+
+    @Edges.Says("It LACKS the first seal CLAUSE that isn't so.")
+    static void p8board_lacksByTheActOfTheDayAskedFor() {
+        LinenBoard x = Edges.oneWeb();
+        x.force(Edges.act(x, "fee 1;seal 1=2;"), 7, 8);
+        x.days(9);
+        int[] want = {-1, 1, 1, -1};
+        for (int day = 6; day <= 9; day++) {
+            due("on day " + day, x.board(0, day, 3, 5), want[day - 6]);
+        }
     }
 
     @Edges.Says("5 the CLAUSE that it LACKS (NONE: none).")

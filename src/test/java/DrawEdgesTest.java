@@ -530,6 +530,37 @@ public final class DrawEdgesTest {
     }
 
     @Edges.Says(LOT_OF)
+    static void p37lotOf_eachLotIsItsOwn() {
+        LinenBoard x = new LinenBoard();
+        x.lot(4);
+        x.lot(5);
+        x.lot(6);
+        x.draw(2, 3, 7);
+        x.draw(1, 5, -1);
+        x.count(2, row(6, 7)[2], 40);
+        x.count(1, 4, 70);
+        x.count(1, 3, 20);
+        int[][] want = {{4, 0, 0, 0}, {5, 5, 2, 90}, {6, 3, 1, 40}};
+        for (int lot = 0; lot < 3; lot++) {
+            for (int what = 0; what <= 3; what++) {
+                due("lotOf(" + lot + ", " + what + ")", x.lotOf(lot, what), want[lot][what]);
+            }
+            int[] drawn = row(want[lot][0], lot == 2 ? 7 : -1);
+            for (int i = 0; i < 6; i++) {
+                due("lotOf(" + lot + ", " + (100 + i) + ")", x.lotOf(lot, 100 + i), i < want[lot][1] ? drawn[i] : -1);
+            }
+        }
+        due("judge(0, 500)", x.judge(0, 500), -1);
+        // 500 less 90, 300 of these uncounted; 600 less 40, 500 of these
+        due("judge(1, 109)", x.judge(1, 109), 2);
+        due("judge(1, 110)", x.judge(1, 110), 1);
+        due("judge(1, 410)", x.judge(1, 410), 0);
+        due("judge(2, 59)", x.judge(2, 59), 2);
+        due("judge(2, 60)", x.judge(2, 60), 1);
+        due("judge(2, 560)", x.judge(2, 560), 0);
+    }
+
+    @Edges.Says(LOT_OF)
     static void p37lotOf_theMostThreads() {
         LinenBoard x = new LinenBoard();
         Edges.inForce(x, "hank 500;");
@@ -858,6 +889,19 @@ public final class DrawEdgesTest {
         x.measure(0, 2, 100, 50, 20, 0);
         x.measure(0, 3, 100, 50, 30, 0);
         due("20 and 2", x.tried(-1, 1), 22);
+    }
+
+    @Edges.Says(TRIED)
+    static void p40tried_byWhatIsInForceOnTheClocksDay() {
+        LinenBoard x = Edges.goodSeal();
+        x.force(Edges.act(x, "bounty 9;fee 2;"), 7, 7);
+        x.days(6);
+        due("on day 6", x.tried(-1, 1), 0);
+        x.days(1);
+        due("on day 7", x.tried(-1, 1), 7);
+        due("smuggled on day 7", x.tried(-1, 2), 1);
+        x.days(1);
+        due("on day 8", x.tried(-1, 1), 0);
     }
 
     @Edges.Says({"Nothing is changed.", TRIED})

@@ -128,6 +128,31 @@ public final class SealEdgesTest {
         due("day", x.sealOf(0, 2), 3);
     }
 
+    @Edges.Says("Of a SEAL: 0 its DIE, 1 WEB, 2 DAY,")
+    static void p18sealOf_eachSealIsItsOwn() {
+        LinenBoard x = Edges.oneDie();
+        x.die(0);
+        x.web(0);
+        x.web(0);
+        x.measure(2, 0, 50, 50, 10, 0);
+        x.measure(1, 0, 60, 50, 10, 0);
+        Edges.inForce(x, "seal width#60;");
+        x.seal(1, 2, 0);
+        x.days(3);
+        x.flaw(1, 0, 2);
+        x.seal(0, 1, 0);
+        x.seal(1, 0, 1);
+        x.days(1);
+        x.seal(1, 0, 0);
+        // die, web, day, forged, good
+        int[][] want = {{1, 2, 0, 0, 1}, {0, 1, 3, 0, 0}, {1, 0, 3, 0, 1}, {1, 0, 4, 1, 0}};
+        for (int seal = 0; seal < want.length; seal++) {
+            for (int what = 0; what <= 4; what++) {
+                due("sealOf(" + seal + ", " + what + ")", x.sealOf(seal, what), want[seal][what]);
+            }
+        }
+    }
+
     @Edges.Says("NONE for others.")
     static void p18sealOf_otherQuestionsAreNone() {
         LinenBoard x = Edges.goodSeal();
@@ -935,6 +960,19 @@ public final class SealEdgesTest {
         due("0 1 0", x.fined(0, 0, 1, 2, 0, 1, 0), 41);
     }
 
+    @Edges.Says(SHARES)
+    static void p25fined_oneOrTwoShares() {
+        int[][] rows = {{4, 0, 0, 20, 0, 0}, {0, 4, 0, 0, 20, 0}, {0, 0, 4, 0, 0, 20}, {5, 5, 0, 10, 10, 0},
+            {5, 0, 5, 10, 0, 10}, {0, 5, 5, 0, 10, 10}, {9, 1, 0, 18, 2, 0}, {2, 3, 5, 4, 6, 10}};
+        for (int[] row : rows) {
+            LinenBoard x = threePersons("20");
+            due("fined", x.fined(0, 0, 1, 2, row[0], row[1], row[2]), 20);
+            for (int i = 0; i < 3; i++) {
+                due("the part of " + i, x.book(10 + i), row[3 + i]);
+            }
+        }
+    }
+
     @Edges.Says(PARTS)
     static void p25fined_theFirstHasWhatIsLeftOver() {
         LinenBoard x = threePersons("100");
@@ -1043,6 +1081,48 @@ public final class SealEdgesTest {
         x.measure(0, 3, 60, 50, 10, 0);
         x.measure(0, 4, 70, 50, 10, 0);
         due("fined", x.fined(0, 0, 0, 0, 1, 0, 0), 60);
+    }
+
+    @Edges.Says("FINE of that DAY (by its WEB's MEASURES on that DAY as KNOWN then),")
+    static void p25fined_eachSealAndItsOwnWeb() {
+        LinenBoard x = Edges.oneDie();
+        x.person(0, 1);
+        x.person(0, 2);
+        for (int web = 1; web <= 3; web++) {
+            x.web(0);
+            x.measure(web, 0, 100, 50, 10 + web, 0);
+        }
+        Edges.inForce(x, "fine length;");
+        x.seal(0, 3, 1);
+        x.seal(0, 0, 1);
+        x.seal(0, 2, 1);
+        x.seal(0, 1, 0);
+        due("seal 2 on web 2", x.fined(2, 0, 1, 2, 0, 0, 1), 12);
+        due("seal 0 on web 3", x.fined(0, 2, 1, 0, 1, 0, 0), 13);
+        due("seal 1 on web 0", x.fined(1, 1, 1, 1, 1, 0, 0), 10);
+        due("seal 3 is good", x.fined(3, 0, 1, 2, 1, 0, 0), -1);
+        int[] fined = {1, 1, 1, 0};
+        for (int seal = 0; seal < 4; seal++) {
+            due("sealOf(" + seal + ", 5)", x.sealOf(seal, 5), fined[seal]);
+        }
+        due("person 2", x.book(12), 25);
+        due("person 1", x.book(11), 10);
+        due("person 0", x.book(10), 0);
+        due("all", x.book(2), 35);
+    }
+
+    @Edges.Says("FINED: a SEAL that isn't GOOD (on the clock's DAY, as KNOWN then), once:")
+    static void p25fined_eachOf80Seals() {
+        LinenBoard x = Edges.oneDie();
+        Edges.inForce(x, "fine 3;");
+        for (int i = 0; i < 80; i++) {
+            x.seal(0, 0, 1);
+        }
+        for (int i = 0; i < 80; i++) {
+            due("seal " + i, x.fined(i, 0, 0, 0, 1, 1, 1), 3);
+        }
+        due("the book", x.book(2), 240);
+        due("the person", x.book(10), 240);
     }
 
     @Edges.Says(FINED_NONE)

@@ -369,7 +369,7 @@ public final class YarnEdgesTest {
         LinenBoard x = Edges.persons(30);
         web(x, 29, 10, 50);
         x.seed(0, 5);
-        for (int i = 0; i < 28; i++) {
+        for (int i = 27; i >= 0; i--) {
             x.trade(i, i + 1, 50);
         }
         due("half of the way", x.doubt(0, 0, -1), 10);
@@ -377,6 +377,22 @@ public final class YarnEdgesTest {
         due("49 by the last one", x.doubt(0, 0, -1), 10);
         x.trade(28, 29, 1);
         due("50 through thirty persons", x.doubt(0, 0, -1), 0);
+    }
+
+    @Edges.Says(CAN)
+    static void p30doubt_seedOfTheLastPerson() {
+        LinenBoard x = Edges.persons(30);
+        web(x, 29, 10, 50);
+        web(x, 0, 10, 30);
+        x.seed(29, 8);
+        due("80 for 50", x.doubt(0, 0, -1), 0);
+        due("nothing for 30", x.doubt(0, 1, -1), 10);
+        x.trade(3, 4, 9);
+        x.trade(29, 0, 30);
+        due("80 for 80", x.doubt(0, 1, -1), 0);
+        x.seed(29, 7);
+        due("70 for 80", x.doubt(0, 1, -1), 10);
+        leftOut(x, 0, 1, 0, 1);
     }
 
     @Edges.Says(CAN)
@@ -405,6 +421,20 @@ public final class YarnEdgesTest {
     }
 
     @Edges.Says(CAN)
+    static void p30doubt_aTradeServesTenWebsTogether() {
+        LinenBoard x = Edges.persons(2);
+        for (int i = 0; i < 10; i++) {
+            web(x, 1, 10, 20);
+        }
+        x.seed(0, 99);
+        x.trade(0, 1, 199);
+        due("199 for 200", x.doubt(0, 9, -1), 10);
+        leftOut(x, 0, 9, 0, 0, 0, 0, 0, 0, 0, 0, 0, 1);
+        x.trade(0, 1, 1);
+        due("200 for 200", x.doubt(0, 9, -1), 0);
+    }
+
+    @Edges.Says(CAN)
     static void p30doubt_whatGoesToOneIsLackingToAnother() {
         LinenBoard x = Edges.persons(3);
         web(x, 0, 30, 50);
@@ -429,6 +459,38 @@ public final class YarnEdgesTest {
         x.trade(0, 2, 50);
         x.trade(3, 1, 50);
         due("all", x.doubt(0, 1, -1), 0);
+    }
+
+    @Edges.Says(CAN)
+    static void p30doubt_whatWentOneWayMayGoAnotherInstead() {
+        // Web 0 is had from person 0 first; web 1 makes it be had from 3, and web 2 then has the way from 0 again.
+        for (int more = 0; more <= 1; more++) {
+            LinenBoard x = Edges.persons(6);
+            web(x, 1, 10, 50);
+            web(x, 2, 10, 50);
+            web(x, 1, 9, 50 + more);
+            x.seed(0, 5);
+            x.seed(3, 5);
+            x.seed(4, 6);
+            x.trade(0, 1, 50);
+            x.trade(0, 2, 50);
+            x.trade(3, 1, 50);
+            x.trade(4, 5, 9999);
+            x.trade(5, 0, 9999);
+            due("need " + (50 + more), x.doubt(0, 2, -1), 9 * more);
+            leftOut(x, 0, 2, 0, 0, more);
+        }
+    }
+
+    @Edges.Says("those of them that are left out so that the others CAN:")
+    static void p30doubt_whatIsLeftOutTakesNothing() {
+        LinenBoard x = Edges.onePerson();
+        web(x, 0, 10, 10);
+        web(x, 0, 9, 60);
+        web(x, 0, 8, 40);
+        x.seed(0, 5);
+        due("50 for 10 and 40", x.doubt(0, 2, -1), 9);
+        leftOut(x, 0, 2, 0, 1, 0);
     }
 
     @Edges.Says({LEAST, "those of them that are left out so that the others CAN:"})
@@ -608,6 +670,49 @@ public final class YarnEdgesTest {
         due("the weaver alone", x.proof(0, 0, 1), 0);
         due("both", x.proof(0, 0, 3), 1);
         due("the other one alone", x.proof(0, 0, 2), 0);
+    }
+
+    @Edges.Says(ROWS)
+    static void p31proof_seedOfTheirsAlone() {
+        LinenBoard x = Edges.persons(3);
+        web(x, 1, 10, 50);
+        x.seed(0, 99);
+        x.seed(2, 99);
+        due("the weaver alone", x.proof(0, 0, 2), 1);
+        due("with the one ahead", x.proof(0, 0, 3), 0);
+        due("with the one behind", x.proof(0, 0, 6), 0);
+    }
+
+    @Edges.Says(ROWS)
+    static void p31proof_websOfTheirsAlone() {
+        LinenBoard x = Edges.persons(3);
+        web(x, 0, 10, 50);
+        web(x, 1, 10, 20);
+        web(x, 2, 10, 50);
+        x.seed(1, 2);
+        due("20 for 20", x.proof(0, 2, 2), 0);
+        due("20 for 70", x.proof(0, 2, 3), 1);
+        x.seed(1, 1);
+        due("10 for 20", x.proof(0, 2, 2), 1);
+        due("10 for nothing", x.proof(2, 2, 2), 0);
+    }
+
+    @Edges.Says(ROWS)
+    static void p31proof_eachTradeIsItsOwn() {
+        LinenBoard x = Edges.persons(4);
+        web(x, 1, 10, 50);
+        web(x, 2, 10, 30);
+        x.trade(1, 3, 900);
+        x.trade(0, 2, 29);
+        x.trade(3, 1, 49);
+        due("49 for 50", x.proof(0, 1, 2), 1);
+        due("29 for 30", x.proof(0, 1, 4), 1);
+        due("78 for 80", x.proof(0, 1, 6), 1);
+        x.trade(0, 2, 1);
+        due("30 for 30", x.proof(0, 1, 4), 0);
+        due("79 for 80", x.proof(0, 1, 6), 1);
+        x.trade(3, 1, 1);
+        due("80 for 80", x.proof(0, 1, 6), 0);
     }
 
     @Edges.Says(ROWS)
