@@ -88,7 +88,7 @@ public final class BoardEdgesTest {
     }
 
     @Edges.Says("An object is used for at most 512 calls after it has been made; what later calls answer is free.")
-    static void p1new_answersItsLast512thCall() {
+    static void p1new_answersIts512thCall() {
         LinenBoard x = new LinenBoard();
         for (int call = 1; call <= 510; call++) {
             due("call " + call, x.days(call % 2 == 0 ? 0 : 201), -1);
@@ -816,6 +816,12 @@ public final class BoardEdgesTest {
         }
     }
 
+    @Edges.Says("then WEEK by WEEK less SHRINK hundredths of it (cut);")
+    static void p8board_shrinksOnTheLastDayToo() {
+        LinenBoard x = bleached(200, 20, 20);
+        due("on day 999", x.board(0, 999, 999, 0), 4);
+    }
+
     @Edges.Says("COUNT * 100 / INCH, cut;")
     static void p8board_countIsCut() {
         LinenBoard x = new LinenBoard();
@@ -1254,6 +1260,30 @@ public final class BoardEdgesTest {
         due("no seed", x.doubt(1, 1, -1), 10);
         due("no flaw", x.sealOf(0, 3), 0);
         due("not fined", x.sealOf(0, 5), 0);
+    }
+
+    @Edges.Says("BACK: all is so again.")
+    static void p42back_whatIsGoneCountsForNothing() {
+        LinenBoard x = Edges.goodSeal();
+        x.person(0, 0);
+        x.image();
+        Edges.inForce(x, "bounty 9;fine 7;");
+        x.claim(0);
+        x.trade(1, 0, 99);
+        x.seal(0, 0, 1);
+        x.look(1);
+        x.fined(1, 0, 0, 0, 1, 0, 0);
+        x.measure(0, 0, 30, 30, 30, 0);
+        x.back();
+        due("no claim", x.book(0), 0);
+        due("no fine", x.book(2), 0);
+        due("nor that of a person", x.book(10), 0);
+        due("no trade", x.proof(0, 0, 1), 1);
+        due("no look", x.kind(0, 0), 0);
+        due("no measures", x.board(0, 0, 0, 0), 100);
+        due("no bounty", x.sum(0, 0, 0, 1), 0);
+        x.claim(0);
+        due("none was paid", x.claimOf(0, 2), 0);
     }
 
     @Edges.Says("but the tape and the latest FAULT.")
