@@ -1157,7 +1157,8 @@ public final class LinenBoard {
     private static final class Reader {
         private final Tape tape;
         private int at;
-        Act draft;
+        // Never null, also ahead of the first text.
+        Act draft = new Act(0);
         int fault = NONE;
         int faultPlace = NONE;
 
