@@ -379,6 +379,16 @@ public final class BoardEdgesTest {
         due("no die has one by it", x.sealOf(0, 3), 0);
     }
 
+    @Edges.Says("False for others,")
+    static void p5flaw_aDieThatIsGoneIsRefused() {
+        LinenBoard x = Edges.oneDie();
+        x.image();
+        x.die(0);
+        x.back();
+        due("flaw(1, 0, 0)", x.flaw(1, 0, 0), false);
+        due("flaw(0, 0, 0)", x.flaw(0, 0, 0), true);
+    }
+
     @Edges.Says("or it has it.")
     static void p5flaw_thatItHasIsRefused() {
         LinenBoard x = Edges.oneDie();
