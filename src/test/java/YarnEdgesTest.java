@@ -1,3 +1,5 @@
+import java.util.Random;
+
 /** Edges of promises 27 to 31: seed, trades, need, doubt, proof. */
 public final class YarnEdgesTest {
     private static final int LOW = Edges.LOW;
@@ -789,6 +791,40 @@ public final class YarnEdgesTest {
         }
         due("399960 for 2", x.proof(0, 0, 2), 0);
         due("none for 2", x.proof(0, 0, 3), 1);
+    }
+
+    /** Some persons with seed, trades among them and webs, by a seed of Java's own. */
+    private static LinenBoard anyYarn(Random random, int persons, int webs) {
+        LinenBoard x = Edges.persons(persons);
+        for (int person = 0; person < persons; person++) {
+            x.seed(person, random.nextInt(6));
+        }
+        for (int trades = random.nextInt(12); trades > 0; trades--) {
+            x.trade(random.nextInt(persons), random.nextInt(persons), random.nextInt(40));
+        }
+        for (int web = 0; web < webs; web++) {
+            x.web(random.nextInt(persons));
+            x.measure(web, 0, 20 + random.nextInt(100), 50, 1 + random.nextInt(10), 0);
+        }
+        return x;
+    }
+
+    @Edges.Says({ROWS, "A set of WEBS CAN all have been woven, if pounds can go by TRADES (also on and on)"})
+    static void p31proof_thereIsOneJustWhereSomeWebIsInDoubt() {
+        Random random = new Random(31);
+        int persons = 6;
+        int doubted = 0;
+        for (int run = 0; run < 400; run++) {
+            LinenBoard x = anyYarn(random, persons, 4);
+            int proofs = 0;
+            for (int set = 0; set < 1 << persons; set++) {
+                proofs += x.proof(0, 3, set);
+            }
+            boolean inDoubt = x.doubt(0, 3, -1) > 0;
+            due("a proof in run " + run, proofs > 0, inDoubt);
+            doubted += inDoubt ? 1 : 0;
+        }
+        due("both are met often", doubted > 50 && doubted < 350, true);
     }
 
     public static void main(String[] args) {
